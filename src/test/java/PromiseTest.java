@@ -198,13 +198,13 @@ public final class PromiseTest {
         }
         SongsAgain x = read("s0,s1,s2,s3,l0,n1;3");
         dueCounts(x, 6, 3, 0, 0, 0, 0, 6, 6, NONE, 0, 0, 1);
-        playAll(x, 4);
+        playAll(x, 0, 1, 4);
         x.skip();
         x.hear(2);
         x.image();
         type(x, "h0,h1,a2;4");
         due("player() of a wrong page", STATE, x.player());
-        dueCounts(x, 6, 3, 1, 1, 7, 1, 5, 4, 4, 1, 10, 1);
+        dueCounts(x, 6, 3, 3, 1, 13, 3, 3, 3, 4, 1, 10, 1);
         due("blank()", 10, x.blank());
         type(x, "h0,h1,a2;1");
         due("player() of another", 3, x.player());
@@ -550,6 +550,12 @@ public final class PromiseTest {
         due("the seed after 1 draw", 1103527590, x.evenings(1, 1, 2));
         due("the seed after 1 draw", 1043980748, x.evenings(1, MOST, 2));
         due("nothing is played", 0, x.count(2));
+        SongsAgain turns = read("s0,l1;1");
+        for (int seed = 0; seed < 20; seed++) {
+            due("minutes of 2 by turns, seed " + seed, 10, turns.evenings(2, seed, 1));
+            due("unlike ones of 2 by turns, seed " + seed, 2, turns.evenings(2, seed, 0));
+            due("unlike ones of 1, seed " + seed, 1, turns.evenings(1, seed, 0));
+        }
         int[][] wrongOnes = {{0, 1, 0}, {61, 1, 0}, {LEAST, 1, 0}, {MOST, 1, 0}, {1, -1, 0}, {1, LEAST, 0},
             {1, 1, -1}, {1, 1, 3}, {1, 1, MOST}};
         for (int[] wrongOne : wrongOnes) {
@@ -675,8 +681,11 @@ public final class PromiseTest {
         promise = 21;
         due("digest() of no player", digestOf(new SongsAgain(), ""), new SongsAgain().digest());
         due("digest() of a page", digestOf(page("s0,x"), "s0,x"), page("s0,x").digest());
+        for (String text : new String[] {"a0,h1,n2,l0,s3;3", "a0,h1,n2,l0,s3;0", "s0,n0;1", "h3,a3,h2;2"}) {
+            // of another object, so that what one call reckons can't help the other
+            due("digest() of " + text, digestOf(read(text), ""), read(text).digest());
+        }
         SongsAgain x = read("a0,h1,n2,l0,s3;3");
-        due("digest()", digestOf(x, ""), x.digest());
         playAll(x, 0);
         x.skip();
         playAll(x, 1);
