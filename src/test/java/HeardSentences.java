@@ -112,8 +112,7 @@ final class HeardSentences extends Sentences {
         due("likely() of 3 2 0 1 2: 1/1024, none, 1/96, 1/16", 3, hearAll(x, 3, 2, 0, 1, 2).likely());
         due("likely() of eight: 1/6561, 1/384, 1/216, 1/96", 3,
                 hearAll(read("s0,s1,s2;0"), 0, 1, 2, 0, 1, 2, 0, 1).likely());
-        // by weights: 2/3 * 1/2 by the bag is more than 2/3 * 1/3 by any
-        due("likely() of 0 1 in h0,s0: 2/9, 2/9, 2/3, 2/3", 2, hearAll(read("h0,s0;0"), 0, 1).likely());
+        due("likely() of 0 1, the bag's last behind it: 2/9, 2/9, 2/3, 2/3", 2, hearAll(read("h0,s0;0"), 0, 1).likely());
     }
 
     private static void leastOfLikeOnes() {
@@ -138,7 +137,9 @@ final class HeardSentences extends Sentences {
         sentence(0, "EVENINGS by a SEED, as they would be:");
         for (int what = 0; what < 3; what++) {
             int told = what;
-            changesNothing("evenings(60, 7, " + what + ")", Sentences::amid, x -> x.evenings(MOST_EVENING, 7, told));
+            changesNothing("evenings(60, 7, " + what + ")", x -> x.evenings(MOST_EVENING, 7, told));
+            changesNothing("evenings(1, 5, " + what + ")", x -> x.evenings(1, 5, told));
+            changesNothing("evenings(2, 5, " + what + ")", x -> x.evenings(2, 5, told));
             SongsAgain x = amid();
             due("evenings again", x.evenings(9, 4, what), x.evenings(9, 4, what));
         }
@@ -297,12 +298,14 @@ final class HeardSentences extends Sentences {
         sentence(13, "It came: how many did.");
         SongsAgain x = read("s0,s0,s1;2");
         due("hear(0)", 1, x.hear(0));
-        due("hear(0) again", 2, x.hear(0));
-        due("rules()", 1, x.rules());
-        due("count(9)", 2, x.count(9));
+        due("hear(2)", 2, x.hear(2));
+        due("hear(1)", 3, x.hear(1));
+        due("rules() of 0 2 1", 15, x.rules());
+        due("hear(1) again", 4, x.hear(1));
+        due("rules() of 0 2 1 1", 5, x.rules());
+        due("count(9)", 4, x.count(9));
         due("count(2), nothing is played", 0, x.count(2));
         dueBag(x, "111");
-        due("hear(2)", 3, x.hear(2));
     }
 
     private static void hearRefusals() {
@@ -310,7 +313,7 @@ final class HeardSentences extends Sentences {
         due("hear(0)", 4, amid().hear(0));
         due("hear(4)", 4, amid().hear(4));
         for (int song : new int[] {-1, 5, 6, LEAST, MOST}) {
-            refused("hear(" + song + ")", UNKNOWN, Sentences::amid, x -> x.hear(song));
+            refused("hear(" + song + ")", UNKNOWN, x -> x.hear(song));
             refused("hear(" + song + ") when full", UNKNOWN, HeardSentences::heardAll, x -> x.hear(song));
         }
         refused("hear(0) of no player", UNKNOWN, Sentences::unread, x -> x.hear(0));
@@ -351,7 +354,7 @@ final class HeardSentences extends Sentences {
         due("rules() of 0 1", 5, hearAll(x, 0, 1).rules());
         due("rules() of 0 2 0", 3, hearAll(x, 0, 2, 0).rules());
         due("rules() of 0 0", 1, hearAll(x, 0, 0).rules());
-        changesNothing("rules()", Sentences::amid, y -> y.rules());
+        changesNothing("rules()", y -> y.rules());
     }
 
     private static void rulesState() {
@@ -369,7 +372,7 @@ final class HeardSentences extends Sentences {
         due("likely() of 0 1", 2, hearAll(x, 0, 1).likely());
         due("likely() of 0 2 1", 3, hearAll(x, 0, 2, 1).likely());
         due("likely() of 0 0, that can come by rule 0 alone", 0, hearAll(x, 0, 0).likely());
-        changesNothing("likely()", Sentences::amid, y -> y.likely());
+        changesNothing("likely()", y -> y.likely());
     }
 
     private static void likelyState() {
@@ -401,15 +404,15 @@ final class HeardSentences extends Sentences {
         due("evenings(1, 2147483647, 2)", 1043980748, x.evenings(1, MOST, 2));
         due("evenings(1, 5, 0)", 1, x.evenings(1, 5, 0));
         for (int songs : new int[] {0, 61, -1, LEAST, MOST}) {
-            refused("evenings(" + songs + ", 5, 0)", OUTSIDE, Sentences::amid, y -> y.evenings(songs, 5, 0));
+            refused("evenings(" + songs + ", 5, 0)", OUTSIDE, y -> y.evenings(songs, 5, 0));
             refused("evenings(" + songs + ", 5, 2)", OUTSIDE, Sentences::unread, y -> y.evenings(songs, 5, 2));
         }
         for (int seed : new int[] {-1, -2, LEAST}) {
-            refused("evenings(1, " + seed + ", 1)", OUTSIDE, Sentences::amid, y -> y.evenings(1, seed, 1));
+            refused("evenings(1, " + seed + ", 1)", OUTSIDE, y -> y.evenings(1, seed, 1));
             refused("evenings(1, " + seed + ", 1)", OUTSIDE, Sentences::unread, y -> y.evenings(1, seed, 1));
         }
         for (int what : new int[] {-1, 3, LEAST, MOST}) {
-            refused("evenings(1, 5, " + what + ")", OUTSIDE, Sentences::amid, y -> y.evenings(1, 5, what));
+            refused("evenings(1, 5, " + what + ")", OUTSIDE, y -> y.evenings(1, 5, what));
             refused("evenings(1, 5, " + what + ")", OUTSIDE, Sentences::unread, y -> y.evenings(1, 5, what));
         }
     }

@@ -215,7 +215,7 @@ final class PageSentences extends Sentences {
         // 256 and 65536 above or below: a letter whose last bits alone are a code
         for (int code : new int[] {0, 127, -1, 128, 256 + 's', 's' - 256, 65536 + 's', 's' - 65536, LEAST, MOST}) {
             refused("letter(" + code + ")", OUTSIDE, SongsAgain::new, x -> x.letter(code));
-            refused("letter(" + code + ")", OUTSIDE, Sentences::amid, x -> x.letter(code));
+            refused("letter(" + code + ")", OUTSIDE, x -> x.letter(code));
         }
     }
 
@@ -268,7 +268,7 @@ final class PageSentences extends Sentences {
         due("fault() of ',' behind six", 17, page(SIX.substring(0, 17) + ",").fault());
         due("fault() of ',' behind five", 15, page(SIX.substring(0, 14) + ",").fault());
         changesNothing("fault()", () -> page(SIX + "abc"), x -> x.fault());
-        changesNothing("fault()", Sentences::amid, x -> x.fault());
+        changesNothing("fault()", x -> x.fault());
     }
 
     private static void faultNone() {
@@ -344,7 +344,10 @@ final class PageSentences extends Sentences {
             refused("player() of \"" + begun + "\"", STATE, () -> page(begun), x -> x.player());
         }
         due("player() of all of it", 6, page(SIX).player());
-        refused("player() of one letter more", STATE, () -> page(SIX + "3"), x -> x.player());
+        for (String none : new String[] {SIX + "3", SIX + ";3", "x0,s0;0", "s0,s4;0", "s0,s0,;0", "s0s0;0", "s0;0",
+            ";0", "s0,s0;4", "s0,s0; ", "s0,s0,s0,s0,s0,s0,s0;0"}) {
+            refused("player() of \"" + none + "\"", STATE, () -> page(none), x -> x.player());
+        }
         refused("player() of a letter less, with another player", STATE, Sentences::amid, x -> x.player());
         due("player() with all letters, with another player", 2, amidSkipped().player());
     }

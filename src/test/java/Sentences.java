@@ -74,9 +74,21 @@ abstract class Sentences {
         }
     }
 
+    static void refused(String call, long want, ToLongFunction<SongsAgain> asked) {
+        refused(call, want, Sentences::amid, asked);
+        refused(call, want, Sentences::amidSkipped, asked);
+        refused(call, want, Sentences::amidUnkept, asked);
+    }
+
     /** The call changes nothing that can be looked at, though it is not refused. */
     static void changesNothing(String call, Supplier<SongsAgain> made, ToLongFunction<SongsAgain> asked) {
         refused(call, asked.applyAsLong(made.get()), made, asked);
+    }
+
+    static void changesNothing(String call, ToLongFunction<SongsAgain> asked) {
+        changesNothing(call, Sentences::amid, asked);
+        changesNothing(call, Sentences::amidSkipped, asked);
+        changesNothing(call, Sentences::amidUnkept, asked);
     }
 
     /** Each begins with another call, as one may hide what another would show. */
@@ -164,10 +176,21 @@ abstract class Sentences {
 
     /** A player with something of all: an image of before, another rule, songs played, one not skipped yet. */
     static SongsAgain amid() {
-        SongsAgain x = read("a0,l1,n0,h2,s1;3");
-        playAndSkip(x, 0);
-        hearAll(x, 3, 0);
+        SongsAgain x = begun();
         x.image();
+        return goneOn(x);
+    }
+
+    /** As amid(), but without an image. */
+    static SongsAgain amidUnkept() {
+        return goneOn(begun());
+    }
+
+    private static SongsAgain begun() {
+        return hearAll(playAndSkip(read("a0,l1,n0,h2,s1;3"), 0), 3, 0);
+    }
+
+    private static SongsAgain goneOn(SongsAgain x) {
         playAll(x, 1, 3);
         x.hear(1);
         x.rule(2);

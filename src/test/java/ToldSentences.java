@@ -107,27 +107,31 @@ final class ToldSentences extends Sentences {
 
     private static void refusalsChangeNothing() {
         sentence(0, "they change nothing.");
-        refused("letter(0)", OUTSIDE, Sentences::amidSkipped, x -> x.letter(0));
+        refused("letter(0)", OUTSIDE, x -> x.letter(0));
         refused("player()", STATE, Sentences::amid, x -> x.player());
-        refused("song(5, 0)", UNKNOWN, Sentences::amidSkipped, x -> x.song(5, 0));
-        refused("song(0, 10)", OUTSIDE, Sentences::amidSkipped, x -> x.song(0, 10));
-        refused("as(5, 0)", UNKNOWN, Sentences::amidSkipped, x -> x.as(5, 0));
-        refused("as(0, 5)", OUTSIDE, Sentences::amidSkipped, x -> x.as(0, 5));
-        refused("rule(4)", OUTSIDE, Sentences::amidSkipped, x -> x.rule(4));
-        refused("play(5)", UNKNOWN, Sentences::amidSkipped, x -> x.play(5));
-        refused("play(1)", STATE, Sentences::amidSkipped, x -> x.play(1));
+        refused("player()", STATE, () -> filled(amidSkipped()), x -> x.player());
+        refused("player()", STATE, () -> filled(amidUnkept()), x -> x.player());
+        refused("song(5, 0)", UNKNOWN, x -> x.song(5, 0));
+        refused("song(0, 10)", OUTSIDE, x -> x.song(0, 10));
+        refused("as(5, 0)", UNKNOWN, x -> x.as(5, 0));
+        refused("as(0, 5)", OUTSIDE, x -> x.as(0, 5));
+        refused("rule(4)", OUTSIDE, x -> x.rule(4));
+        refused("play(5)", UNKNOWN, x -> x.play(5));
+        refused("play(1)", STATE, x -> x.play(1));
         refused("skip()", STATE, Sentences::amidSkipped, x -> x.skip());
-        refused("twice(1, 0)", OUTSIDE, Sentences::amidSkipped, x -> x.twice(1, 0));
-        refused("party(32, 0)", OUTSIDE, Sentences::amidSkipped, x -> x.party(32, 0));
-        refused("hear(5)", UNKNOWN, Sentences::amidSkipped, x -> x.hear(5));
-        refused("evenings(0, 0, 0)", OUTSIDE, Sentences::amidSkipped, x -> x.evenings(0, 0, 0));
-        refused("count(12)", OUTSIDE, Sentences::amidSkipped, x -> x.count(12));
+        refused("twice(1, 0)", OUTSIDE, x -> x.twice(1, 0));
+        refused("party(32, 0)", OUTSIDE, x -> x.party(32, 0));
+        refused("hear(5)", UNKNOWN, x -> x.hear(5));
+        refused("evenings(0, 0, 0)", OUTSIDE, x -> x.evenings(0, 0, 0));
+        refused("count(12)", OUTSIDE, x -> x.count(12));
         refused("letter('s') on a full page", FULL, () -> filled(amid()), x -> x.letter('s'));
+        refused("letter('s') on a full page", FULL, () -> filled(amidUnkept()), x -> x.letter('s'));
+        refused("restore()", STATE, Sentences::amidUnkept, x -> x.restore());
         refused("hear(0) of a ninth", FULL, () -> hearAll(amid(), 3, 0, 1, 2, 4, 0, 0, 1), x -> x.hear(0));
     }
 
     private static SongsAgain filled(SongsAgain x) {
-        while (x.count(10) < 22) {
+        for (int letters = x.count(10); letters < 22; letters++) {
             x.letter('~');
         }
         return x;
@@ -254,7 +258,7 @@ final class ToldSentences extends Sentences {
 
     private static void dueCount(int what, long want, SongsAgain x) {
         due("count(" + what + ")", want, x.count(what));
-        changesNothing("count(" + what + ")", Sentences::amid, y -> y.count(what));
+        changesNothing("count(" + what + ")", y -> y.count(what));
     }
 
     private static void countSongs() {
@@ -428,7 +432,7 @@ final class ToldSentences extends Sentences {
         due("count(0)", 5, amid().count(0));
         due("count(11)", 1, amid().count(11));
         for (int what : new int[] {-1, 12, LEAST, MOST}) {
-            refused("count(" + what + ")", OUTSIDE, Sentences::amid, x -> x.count(what));
+            refused("count(" + what + ")", OUTSIDE, x -> x.count(what));
             refused("count(" + what + ")", OUTSIDE, SongsAgain::new, x -> x.count(what));
         }
     }
@@ -479,7 +483,7 @@ final class ToldSentences extends Sentences {
         // of a new object the twelve counts alone, 0 but for the ninth, which is -1
         due("digest() of a new object", -7910199732326637562L, new SongsAgain().digest());
         due("digest() of s0,s1;0", -1149589728010148857L, read("s0,s1;0").digest());
-        changesNothing("digest()", Sentences::amid, x -> x.digest());
+        changesNothing("digest()", x -> x.digest());
     }
 
     private static void dueDigest(String of, Sum want, SongsAgain x) {
@@ -501,8 +505,9 @@ final class ToldSentences extends Sentences {
         SongsAgain none = new SongsAgain();
         dueDigest("no player", new Sum().ofCounts(none), new SongsAgain());
         for (String text : new String[] {"s0,s0;0", "s0,s1;2", "a0,h1,n2,l0,s3;0", "s0,s1,s2,s3,s0,s1;1"}) {
-            SongsAgain asked = hearAll(read(text), 0, 1, 0);
-            dueDigest(text, new Sum().ofSongs(asked).ofPlayer(asked).ofCounts(asked), hearAll(read(text), 0, 1, 0));
+            SongsAgain asked = playAll(hearAll(read(text), 0, 1, 0), 1);
+            dueDigest(text, new Sum().ofSongs(asked).ofPlayer(asked).ofCounts(asked),
+                    playAll(hearAll(read(text), 0, 1, 0), 1));
         }
     }
 

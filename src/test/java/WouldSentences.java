@@ -73,7 +73,7 @@ final class WouldSentences extends Sentences {
         playAndSkip(x, 1);
         // all weigh nothing
         dueTwice(x, 2, 1, 2);
-        changesNothing("twice(3, 1)", Sentences::amid, y -> y.twice(3, 1));
+        changesNothing("twice(3, 1)", y -> y.twice(3, 1));
     }
 
     private static void twiceInWholeParts() {
@@ -107,13 +107,13 @@ final class WouldSentences extends Sentences {
             due("twice(" + songs + ", 1) is no refusal", 1, x.twice(songs, 1) > 0 ? 1 : 0);
         }
         for (int songs : new int[] {1, 4, 0, -1, LEAST, MOST}) {
-            refused("twice(" + songs + ", 0)", OUTSIDE, Sentences::amid, y -> y.twice(songs, 0));
+            refused("twice(" + songs + ", 0)", OUTSIDE, y -> y.twice(songs, 0));
             refused("twice(" + songs + ", 1)", OUTSIDE, Sentences::amidSkipped, y -> y.twice(songs, 1));
             refused("twice(" + songs + ", 1) of no player", OUTSIDE, Sentences::unread, y -> y.twice(songs, 1));
         }
         for (int what : new int[] {-1, 2, LEAST, MOST}) {
-            refused("twice(2, " + what + ")", OUTSIDE, Sentences::amid, y -> y.twice(2, what));
-            refused("twice(3, " + what + ")", OUTSIDE, Sentences::amid, y -> y.twice(3, what));
+            refused("twice(2, " + what + ")", OUTSIDE, y -> y.twice(2, what));
+            refused("twice(3, " + what + ")", OUTSIDE, y -> y.twice(3, what));
             refused("twice(3, " + what + ") of no player", OUTSIDE, Sentences::unread, y -> y.twice(3, what));
         }
     }
@@ -143,7 +143,7 @@ final class WouldSentences extends Sentences {
         x.rule(3);
         // neither what was played nor the rule is asked
         dueParty(x, 15, 8, 0, 2, 1, 3);
-        changesNothing("party(7, 0)", Sentences::amid, y -> y.party(7, 0));
+        changesNothing("party(7, 0)", y -> y.party(7, 0));
     }
 
     private static void nurseryOnesToo() {
@@ -168,8 +168,11 @@ final class WouldSentences extends Sentences {
     private static void noneOfThem() {
         sentence(0, "none; how many such orders there are");
         // three of one singer among five can stand apart, among four they can't
-        dueParty(read("s0,s0,s0,s1,s2;0"), 31, 12, 0, 3, 1, 4, 2);
-        dueParty(read("s0,s0,s0,s1,s2;0"), 15, 0);
+        SongsAgain x = read("s0,s0,s0,s1,s2;0");
+        dueParty(x, 31, 12, 0, 3, 1, 4, 2);
+        dueParty(x, 15, 0);
+        dueParty(x, 24, 2, 3, 4);
+        dueParty(x, 3, 0);
         dueParty(read(alike(2, 0)), 3, 0);
         dueParty(read(alike(6, 0)), 63, 0);
         dueParty(read(alike(6, 0)), 32, 1, 5);
@@ -224,10 +227,10 @@ final class WouldSentences extends Sentences {
                 refused("party(" + bits + ", 0) of " + songs, OUTSIDE, () -> read(text), x -> x.party(bits, 0));
             }
         }
-        refused("party(32, 0)", OUTSIDE, Sentences::amid, x -> x.party(32, 0));
+        refused("party(32, 0)", OUTSIDE, x -> x.party(32, 0));
         refused("party(-1, 10)", OUTSIDE, Sentences::amidSkipped, x -> x.party(-1, 10));
         for (int what : new int[] {-1, 1, 2, 9, 16, 17, LEAST, MOST}) {
-            refused("party(1, " + what + ")", OUTSIDE, Sentences::amid, x -> x.party(1, what));
+            refused("party(1, " + what + ")", OUTSIDE, x -> x.party(1, what));
             refused("party(0, " + what + ") of no player", OUTSIDE, Sentences::unread, x -> x.party(0, what));
         }
         due("party(5, 10)", NONE, amid().party(5, 10));
