@@ -112,6 +112,10 @@ final class HeardSentences extends Sentences {
         due("likely() of 3 2 0 1 2: 1/1024, none, 1/96, 1/16", 3, hearAll(x, 3, 2, 0, 1, 2).likely());
         due("likely() of eight: 1/6561, 1/384, 1/216, 1/96", 3,
                 hearAll(read("s0,s1,s2;0"), 0, 1, 2, 0, 1, 2, 0, 1).likely());
+        due("likely() of 1 0 1 in a2,n1: 3/64, 3/16, 1/16, 1/4", 3, hearAll(read("a2,n1;0"), 1, 0, 1).likely());
+        due("likely() of 1 0 0 in a2,h0: 18/125, none, 6/25, none", 2, hearAll(read("a2,h0;0"), 1, 0, 0).likely());
+        due("likely() of 2 1 0 0 in n1,a0,h1: 1/216, 1/48, 1/24, 1/16", 3,
+                hearAll(read("n1,a0,h1;0"), 2, 1, 0, 0).likely());
         due("likely() of 0 1, the bag's last behind it: 2/9, 2/9, 2/3, 2/3", 2, hearAll(read("h0,s0;0"), 0, 1).likely());
     }
 
